@@ -90,13 +90,13 @@ public final class RandomRunsTest {
             case 7: call(7, from(0, 3), 0, 0, 0); break;
             case 8: call(8, from(0, draw.nextInt(2) == 0 ? 8 : 60), 0, 0, 0); break;
             case 9: if (sneezes < 5 || draw.nextInt(8) == 0) call(9, place(), from(-1, 6), 0, 0); break;
-            case 10: if (sneezes < 5 || draw.nextInt(8) == 0) call(10, place(), place(), 0, 0); break;
+            case 10: if (sneezes < 5 || draw.nextInt(8) == 0) stretch(10, 0, 0); break;
             case 11: call(11, place(), from(0, 1), 0, 0); break;
             case 12: call(12, place(), from(0, 1), 0, 0); break;
-            case 13: if (sneezes < 9 || draw.nextInt(8) == 0) call(13, place(), place(), from(0, 10), from(0, 1)); break;
+            case 13: if (sneezes < 9 || draw.nextInt(8) == 0) stretch(13, from(0, 10), from(0, 1)); break;
             case 14: if (sneezes < 9 || draw.nextInt(8) == 0) call(14, from(0, 10), from(0, 1), 0, 0); break;
             case 15: if (draw.nextInt(4) == 0) sight(); break;
-            case 16: if (draw.nextInt(3) == 0) call(16, 0, 0, 0, 0); break;
+            case 16: if (draw.nextInt(10) == 0) call(16, 0, 0, 0, 0); break;
             case 17: call(17, from(0, 2), 0, 0, 0); break;
             case 18: call(18, from(0, 63), from(0, 1), 0, 0); break;
             case 19: call(19, from(0, 9999), from(1, 60), from(0, 2), 0); break;
@@ -111,6 +111,12 @@ public final class RandomRunsTest {
     private void sight() {
         int here = model.at(draw.nextInt(9), 0);
         call(15, from(0, 5), here >= 0 && draw.nextInt(4) != 0 ? here - 1000 : place(), 0, 0);
+    }
+
+    private void stretch(int which, int c, int d) {
+        int one = place(), other = place();
+        boolean turned = one > other && draw.nextInt(8) != 0;
+        call(which, turned ? other : one, turned ? one : other, c, d);
     }
 
     private void call(int which, int a, int b, int c, int d) {
