@@ -776,6 +776,9 @@ public final class PromisesTest {
         due(0, x.starts(0));
         write(x, "");
         due(NONE, x.starts(1));
+        SneezeRace kept = race(".", 5);
+        kept.fell(0, 0);
+        due(0, kept.starts(0));
     }
 
     private static void promise20Ahead() {
