@@ -1,13 +1,5 @@
 /** Each promise on its own: ordinary inputs, the edges that the document names, wrong inputs. */
-public final class PromisesTest {
-    private static final int UNKNOWN = -1, OUTSIDE = -2, STATE = -3, FULL = -4, NO = -5, NONE = -6;
-    private static final long GONE = -1000000000000000000L;
-    private static final int LOW = Integer.MIN_VALUE, HIGH = Integer.MAX_VALUE;
-
-    private static int wrong = 0;
-    private static int asked = 0;
-    private static int promise = 0;
-
+public final class PromisesTest extends Asked {
     public static void main(String[] args) {
         promise1ANewObject();
         promise2Wind();
@@ -34,50 +26,11 @@ public final class PromisesTest {
         promise22Image();
         promise23Restore();
         promise24Told();
-        System.out.println(wrong == 0 ? asked + " answers are as due" : wrong + " answers are not as due");
-        if (wrong != 0) {
-            System.exit(1);
-        }
-    }
-
-    private static void due(long want, long got) {
-        asked++;
-        if (got != want) {
-            wrong++;
-            StackTraceElement from = new Throwable().getStackTrace()[1];
-            System.out.println("promise " + promise + ", line " + from.getLineNumber() + ": answered " + got + ", due is " + want);
-        }
-    }
-
-    /** A new object with weights for a, b, c .. and a text. */
-    private static SneezeRace race(String text, int... weights) {
-        SneezeRace x = new SneezeRace();
-        for (int thing = 0; thing < weights.length; thing++) {
-            x.load(thing, weights[thing]);
-        }
-        write(x, text);
-        return x;
-    }
-
-    private static void write(SneezeRace x, String text) {
-        x.wipe();
-        for (char sign : text.toCharArray()) {
-            x.say(sign);
-        }
-    }
-
-    /** Winds that tell the height: h places a minute early and late, and no leak. */
-    private static SneezeRace steady(String text, int... weights) {
-        SneezeRace x = race(text, weights);
-        x.set(2, 0);
-        for (int height = 0; height < 5; height++) {
-            x.wind(height, 1, height);
-        }
-        return x;
+        finish();
     }
 
     private static void promise1ANewObject() {
-        promise = 1;
+        about("promise 1");
         SneezeRace x = new SneezeRace();
         int[] numbers = {0, 10, 50, 1, 10, 3, 5, 0};
         for (int what = 0; what < numbers.length; what++) {
@@ -109,7 +62,7 @@ public final class PromisesTest {
     }
 
     private static void promise2Wind() {
-        promise = 2;
+        about("promise 2");
         SneezeRace x = race("..");
         x.set(0, 1);
         due(104, x.wind(4, 0, -9));
@@ -132,7 +85,7 @@ public final class PromisesTest {
     }
 
     private static void promise3Set() {
-        promise = 3;
+        about("promise 3");
         int[] first = {10, 50, 1, 10, 3, 5};
         int[] least = {0, 0, 0, 1, 0, 1};
         int[] greatest = {40, 99, 9, 20, 9, 20};
@@ -157,7 +110,7 @@ public final class PromisesTest {
     }
 
     private static void promise4Load() {
-        promise = 4;
+        about("promise 4");
         SneezeRace x = new SneezeRace();
         for (int thing = 0; thing < 6; thing++) {
             due(0, x.load(thing, 20 - thing));
@@ -178,7 +131,7 @@ public final class PromisesTest {
     }
 
     private static void promise5Say() {
-        promise = 5;
+        about("promise 5");
         SneezeRace x = new SneezeRace();
         due(OUTSIDE, x.say(32));
         due(OUTSIDE, x.say(127));
@@ -196,7 +149,7 @@ public final class PromisesTest {
     }
 
     private static void promise6Wipe() {
-        promise = 6;
+        about("promise 6");
         SneezeRace x = race("..!..", 5);
         x.fell(0, 1);
         due(5, x.wipe());
@@ -209,7 +162,7 @@ public final class PromisesTest {
     }
 
     private static void promise7Fault() {
-        promise = 7;
+        about("promise 7");
         due(NONE, race("").fault());
         due(NONE, race(".!.f!a.", 1, 0, 0, 0, 0, 1).fault());
         due(2, race(".!b.", 1, 0, 1).fault());
@@ -233,7 +186,7 @@ public final class PromisesTest {
     }
 
     private static void promise8At() {
-        promise = 8;
+        about("promise 8");
         SneezeRace x = race("a..!b.", 10, 5);
         int[][] behind = {{1000, 3, 50, 2}, {1004, 4, 49, 1}, {1008, 4, 48, 1}, {1012, 4, 47, 0}};
         for (int m = 0; m < behind.length; m++) {
@@ -319,7 +272,7 @@ public final class PromisesTest {
     }
 
     private static void promise9Judge() {
-        promise = 9;
+        about("promise 9");
         SneezeRace x = race("a!bc.d!.e!!f", 1, 1, 1, 1, 1, 1);
         due(4, x.judge(0));
         due(2, x.judge(1));
@@ -365,7 +318,7 @@ public final class PromisesTest {
     }
 
     private static void promise10Pepper() {
-        promise = 10;
+        about("promise 10");
         SneezeRace x = race("!!...!.");
         x.set(5, 3);
         pepperRow(x, 1, 1, 1, 2, 2);
@@ -399,7 +352,7 @@ public final class PromisesTest {
     }
 
     private static void promise11Nearest() {
-        promise = 11;
+        about("promise 11");
         SneezeRace x = steady("!.!.", 10, 10, 20);
         due(0, x.nearest(2, -1));
         due(NONE, x.nearest(2, 2));
@@ -472,7 +425,7 @@ public final class PromisesTest {
     }
 
     private static void promise12Field() {
-        promise = 12;
+        about("promise 12");
         SneezeRace x = steady("!.!.", 10, 10, 20);
         for (int place = 0; place < 9; place++) {
             due(waysByHand(place), x.field(place, place));
@@ -514,7 +467,7 @@ public final class PromisesTest {
     }
 
     private static void promise13Take() {
-        promise = 13;
+        about("promise 13");
         SneezeRace x = steady(".", 0, 10, 10, 20);
         // 50: height 4 with none or one of 10, 3 with b and c or d.
         due(0, x.take(4, 0));
@@ -555,7 +508,7 @@ public final class PromisesTest {
     }
 
     private static void promise14Stay() {
-        promise = 14;
+        about("promise 14");
         SneezeRace x = race("..");
         x.set(0, 20);
         due(0, x.stay(8, 0));
@@ -602,7 +555,7 @@ public final class PromisesTest {
     }
 
     private static void promise15Likely() {
-        promise = 15;
+        about("promise 15");
         // Height 1 at first; the heaviest is b (the first of 20), then c, then a.
         SneezeRace x = steady("!.!.", 1, 20, 20);
         x.set(1, 51);
@@ -654,7 +607,7 @@ public final class PromisesTest {
     }
 
     private static void promise16Mean() {
-        promise = 16;
+        about("promise 16");
         SneezeRace x = steady("!.!.", 1, 20, 20);
         x.set(1, 51);
         // 0.49 of 2, 0.21 of 6, 0.09 of 7, 0.21 of 4.
@@ -688,7 +641,7 @@ public final class PromisesTest {
     }
 
     private static void promise17Fell() {
-        promise = 17;
+        about("promise 17");
         SneezeRace x = new SneezeRace();
         due(UNKNOWN, x.fell(-1, 0));
         due(UNKNOWN, x.fell(6, 601));
@@ -709,7 +662,7 @@ public final class PromisesTest {
     }
 
     private static void promise18Forget() {
-        promise = 18;
+        about("promise 18");
         SneezeRace x = race(".a", 5);
         due(0, x.forget());
         x.fell(0, 500);
@@ -724,7 +677,7 @@ public final class PromisesTest {
     }
 
     private static void promise19Starts() {
-        promise = 19;
+        about("promise 19");
         SneezeRace x = race(".a.!b.", 10, 10);
         due(100, x.starts(0));
         due(0, x.starts(1));
@@ -782,7 +735,7 @@ public final class PromisesTest {
     }
 
     private static void promise20Ahead() {
-        promise = 20;
+        about("promise 20");
         SneezeRace x = race("...........!.", 10, 10);
         x.set(2, 0);
         // Early 3 a minute with both and 4 without b; late the same backwards: equal places come at minute 20.
@@ -808,7 +761,7 @@ public final class PromisesTest {
     }
 
     private static void promise21Year() {
-        promise = 21;
+        about("promise 21");
         SneezeRace x = new SneezeRace();
         x.set(2, 0);
         due(100040, x.year(0, 1, 0));
@@ -863,7 +816,7 @@ public final class PromisesTest {
     }
 
     private static void promise22Image() {
-        promise = 22;
+        about("promise 22");
         SneezeRace x = race("..", 3);
         due(1, x.image(0));
         x.load(0, 4);
@@ -883,7 +836,7 @@ public final class PromisesTest {
     }
 
     private static void promise23Restore() {
-        promise = 23;
+        about("promise 23");
         SneezeRace x = race("..", 3, 0, 7);
         due(STATE, x.restore(0));
         due(STATE, x.restore(1));
@@ -937,7 +890,7 @@ public final class PromisesTest {
     }
 
     private static void promise24Told() {
-        promise = 24;
+        about("promise 24");
         SneezeRace x = race("..!", 1, 2, 3, 4, 5, 6);
         x.fell(0, 0);
         due(3, x.told(0));
