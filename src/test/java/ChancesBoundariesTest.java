@@ -130,6 +130,11 @@ public final class ChancesBoundariesTest extends Asked {
         chance(3, 4, x, 2, 2, 5);
         chance(1, 4, x, 1, 1, 5);
         chance(1, 1, x, 2, 2, 10);
+        // Of six things one is left behind five sneezes, none behind six, none to throw at the seventh.
+        SneezeRace six = steady("!!!!!.!.!.", 1, 1, 1, 1, 1, 1);
+        six.set(3, 1);
+        six.set(1, 1);
+        chance(1, 1, six, 0 + 1 + 1, 0 + 1 + 1, 10);
     }
 
     private static void likelyThrowsTheHeaviest() {

@@ -405,6 +405,17 @@ public final class PromisesTest extends Asked {
         due(NONE, late.nearest(3 - 3 - 3, 0));
         due(1, late.field(-5, -5));
         due(2, late.field(-5, -3));
+        due(0, leaking().nearest(5, -1));
+        due(0, leaking().nearest(5, 0));
+        due(0, leaking().nearest(4, 1));
+    }
+
+    /** Heights 2 and 1 with a, 3 and 2 without it: places 3, 4 (thrown at the second sneeze), 5 (at the first). */
+    private static SneezeRace leaking() {
+        SneezeRace x = race("!.!.", 10);
+        x.set(1, 30);
+        x.set(2, 9);
+        return x;
     }
 
     private static void promise11Refusals() {
@@ -433,6 +444,8 @@ public final class PromisesTest extends Asked {
         due(13, x.field(-600, 600));
         due(waysByHand(3) + waysByHand(4), x.field(3, 4));
         due(0, x.field(8, 600));
+        due(3, leaking().field(3, 5));
+        due(1, leaking().field(5, 5));
         due(OUTSIDE, x.field(1, 0));
         due(OUTSIDE, x.field(-601, 0));
         due(OUTSIDE, x.field(0, 601));
@@ -574,6 +587,8 @@ public final class PromisesTest extends Asked {
         fraction(1, 1, x, -600, 600, 7);
         x.wipe();
         fraction(1, 1, x, 0, 0, 4);
+        fraction(1, 4, leaking(), 4, 4, 5);
+        fraction(1, 2, leaking(), 5, 5, 5);
         // Neither the first nor the last is the heaviest.
         SneezeRace middle = steady("!.", 5, 20, 10);
         fraction(2, 5, middle, 3, 3, 4);
@@ -621,6 +636,9 @@ public final class PromisesTest extends Asked {
             x.wind(height, 0, -height);
         }
         due(99629, x.mean(3, 0));
+        // A quarter of 3 and of 4, a half of 5.
+        due(4017, leaking().mean(5, 0));
+        due(4, leaking().mean(5, 1));
         write(x, "");
         due(1000, x.mean(5, 0));
         due(1, x.mean(5, 1));

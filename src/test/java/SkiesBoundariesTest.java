@@ -27,6 +27,7 @@ public final class SkiesBoundariesTest extends Asked {
         padHolds60Signs();
         codesAre33To126();
         wipeAnswersHowMany();
+        wipedSignsAreGone();
         faultOfATextWithoutSigns();
         faultAtOtherSigns();
         faultAtAThingNotAboard();
@@ -376,6 +377,33 @@ public final class SkiesBoundariesTest extends Asked {
         due(60, x.wipe());
         due(NONE, x.fault());
         unchanged(0, SneezeRace::wipe, SneezeRace::wipe);
+    }
+
+    private static void wipedSignsAreGone() {
+        about("Signs go");
+        String[] texts = {"ab!c.", "!!!!a.", ".a!b", "z", times(13, "!")};
+        for (String text : texts) {
+            SneezeRace x = race(text, 5, 5, 5);
+            x.wipe();
+            x.fell(0, 0);
+            due(NONE, x.fault());
+            due(3, x.at(-1, 3));
+            due(0, x.judge(0));
+            due(0, x.judge(2));
+            due(NONE, x.judge(3));
+            due(3, x.pepper(0));
+            due(OUTSIDE, x.pepper(1));
+            due(600, x.nearest(600, -1));
+            due(NONE, x.nearest(600, 0));
+            due(1, x.field(-600, 600));
+            due(0, x.take(0, 0));
+            due(1, x.likely(0, 0, 5, 1));
+            due(0, x.starts(0));
+            write(x, ".");
+            due(1003, x.at(-1, 0));
+            due(NONE, x.judge(3));
+            due(1003, x.mean(5, 0));
+        }
     }
 
     private static void faultOfATextWithoutSigns() {
