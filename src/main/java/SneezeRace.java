@@ -5,6 +5,8 @@ public final class SneezeRace {
 
     private static final int FINE = 0;
     private static final int THINGS = 6, SETS = 64, HEIGHTS = 5, FARTHEST = 600, SIGHTS = 6;
+    // Farther from any goal than a race can end.
+    private static final int OUT_OF_SIGHT = 2 * FARTHEST + 1;
     private static final int SIGNS = 60, SNEEZES = 12, CHOSEN_SNEEZES = 6, MOST_PEPPER = 12;
     private static final int MINUTE = 46, SNEEZE = 33, FIRST_LETTER = 97;
     private static final int FIRST_SIGN = 33, LAST_SIGN = 126;
@@ -892,7 +894,7 @@ public final class SneezeRace {
 
         void begin(int newGoal) {
             goal = newGoal;
-            off = Integer.MAX_VALUE;
+            off = OUT_OF_SIGHT;
             thrown = 0;
         }
 

@@ -1,11 +1,17 @@
 import com.sun.source.tree.ArrayAccessTree;
 import com.sun.source.tree.AssertTree;
+import com.sun.source.tree.AssignmentTree;
+import com.sun.source.tree.BinaryTree;
 import com.sun.source.tree.ClassTree;
 import com.sun.source.tree.CompilationUnitTree;
+import com.sun.source.tree.CompoundAssignmentTree;
+import com.sun.source.tree.DoWhileLoopTree;
+import com.sun.source.tree.ForLoopTree;
 import com.sun.source.tree.LambdaExpressionTree;
 import com.sun.source.tree.LiteralTree;
 import com.sun.source.tree.MemberReferenceTree;
 import com.sun.source.tree.MemberSelectTree;
+import com.sun.source.tree.MethodInvocationTree;
 import com.sun.source.tree.MethodTree;
 import com.sun.source.tree.NewArrayTree;
 import com.sun.source.tree.NewClassTree;
@@ -15,14 +21,19 @@ import com.sun.source.tree.Tree;
 import com.sun.source.tree.TryTree;
 import com.sun.source.tree.TypeCastTree;
 import com.sun.source.tree.VariableTree;
+import com.sun.source.tree.WhileLoopTree;
 import com.sun.source.util.JavacTask;
 import com.sun.source.util.TreePathScanner;
 import com.sun.source.util.Trees;
 import java.io.File;
 import java.util.Arrays;
+import java.util.HashMap;
+import java.util.HashSet;
 import java.util.List;
+import java.util.Map;
 import java.util.Set;
 import java.util.TreeSet;
+import javax.lang.model.element.Element;
 import javax.lang.model.element.Modifier;
 import javax.tools.JavaCompiler;
 import javax.tools.StandardJavaFileManager;
@@ -34,7 +45,8 @@ public final class LanguageTest {
         "wind", "set", "load", "say", "wipe", "fault", "at", "judge", "pepper", "nearest", "field", "take", "stay", "likely", "mean",
         "fell", "forget", "starts", "ahead", "year", "image", "restore", "told");
     private static final Set<String> CONSTANTS = Set.of("UNKNOWN", "OUTSIDE", "STATE", "FULL", "NO", "NONE", "GONE");
-    private static final Set<String> LIBRARY = Set.of("Math.min", "Math.max", "Math.abs", "Integer.bitCount", "Integer.MAX_VALUE");
+    private static final Set<String> LIBRARY = Set.of("Math.min", "Math.max", "Math.abs", "Integer.bitCount");
+    private static final Set<String> NUMBERS = Set.of("int", "long", "boolean", "void", "int[]");
 
     private static int wrong = 0;
 
@@ -46,7 +58,10 @@ public final class LanguageTest {
         for (CompilationUnitTree unit : task.parse()) {
             rule(1, unit.getPackageName() == null && unit.getTypeDecls().size() == 1, "one class without a package");
             rule(4, unit.getImports().isEmpty(), "no import");
-            new Rules(unit, Trees.instance(task)).scan(unit, null);
+            task.analyze();
+            Rules rules = new Rules(unit, Trees.instance(task));
+            rules.scan(unit, null);
+            calls(rules.calls);
         }
         face();
         System.out.println(wrong == 0 ? "the source keeps to the rules" : wrong + " rules are broken");
@@ -82,15 +97,45 @@ public final class LanguageTest {
         rule(1, java.lang.reflect.Modifier.isFinal(SneezeRace.class.getModifiers()), "the class is final");
     }
 
+    /** Only seek and ways call themselves; all other calls go at most eight deep. */
+    private static void calls(Map<Element, Set<Element>> calls) {
+        for (Map.Entry<Element, Set<Element>> entry : calls.entrySet()) {
+            Element caller = entry.getKey();
+            boolean itself = entry.getValue().remove(caller);
+            boolean named = List.of("seek", "ways").contains(caller.getSimpleName().toString());
+            rule(8, itself == named, caller + " calls itself: " + itself);
+        }
+        for (Element caller : calls.keySet()) {
+            rule(11, depth(caller, calls, 0) <= 8, caller + " calls more than eight deep");
+        }
+    }
+
+    private static int depth(Element caller, Map<Element, Set<Element>> calls, int above) {
+        int deepest = above + 1;
+        for (Element called : calls.getOrDefault(caller, Set.of())) {
+            deepest = Math.max(deepest, above > 20 ? above : depth(called, calls, above + 1));
+        }
+        return deepest;
+    }
+
     private static final class Rules extends TreePathScanner<Void, Void> {
         private final CompilationUnitTree unit;
         private final Trees trees;
+        private final Map<Element, Set<Element>> calls = new HashMap<>();
+        private final Set<String> own = new TreeSet<>();
         private int classes = 0;
         private String method = "";
+        private Element caller;
 
         Rules(CompilationUnitTree unit, Trees trees) {
             this.unit = unit;
             this.trees = trees;
+            ClassTree face = (ClassTree) unit.getTypeDecls().get(0);
+            for (Tree member : face.getMembers()) {
+                if (member instanceof ClassTree) {
+                    own.add(((ClassTree) member).getSimpleName().toString());
+                }
+            }
         }
 
         private long line(Tree tree) {
@@ -125,6 +170,10 @@ public final class LanguageTest {
         public Void visitMethod(MethodTree tree, Void nothing) {
             String before = method;
             method = tree.getName().toString();
+            caller = trees.getElement(getCurrentPath());
+            if (tree.getReturnType() != null) {
+                type(tree.getReturnType());
+            }
             rule(11, tree.getParameters().size() <= 7, method + " takes more than seven parameters");
             long end = unit.getLineMap().getLineNumber(trees.getSourcePositions().getEndPosition(unit, tree));
             rule(11, end - line(tree) < 60, method + " is longer than sixty lines");
@@ -132,6 +181,77 @@ public final class LanguageTest {
             rule(1, open || !FACE.contains(method), "a method inside bears the name " + method);
             super.visitMethod(tree, nothing);
             method = before;
+            return null;
+        }
+
+        private void type(Tree tree) {
+            rule(3, NUMBERS.contains(tree.toString()) || own.contains(tree.toString()), "the type " + tree + ", line " + line(tree));
+        }
+
+        @Override
+        public Void visitVariable(VariableTree tree, Void nothing) {
+            type(tree.getType());
+            return super.visitVariable(tree, nothing);
+        }
+
+        @Override
+        public Void visitMethodInvocation(MethodInvocationTree tree, Void nothing) {
+            Element called = trees.getElement(getCurrentPath());
+            calls.computeIfAbsent(caller, none -> new HashSet<>()).add(called);
+            String name = called.getSimpleName().toString();
+            for (int i = 0; i < tree.getArguments().size(); i++) {
+                boolean changed = name.equals("put") && i == 0 || name.equals("copy") && i == 1;
+                rule(5, !changed || !isConstant(tree.getArguments().get(i)), "a row of the class is changed, line " + line(tree));
+            }
+            return super.visitMethodInvocation(tree, nothing);
+        }
+
+        private static boolean isConstant(Tree tree) {
+            return tree.toString().matches("[A-Z][A-Z_]*");
+        }
+
+        @Override
+        public Void visitAssignment(AssignmentTree tree, Void nothing) {
+            boolean cell = tree.getVariable() instanceof ArrayAccessTree;
+            rule(5, !cell || !isConstant(((ArrayAccessTree) tree.getVariable()).getExpression()), "a row of the class is changed: " + tree);
+            return super.visitAssignment(tree, nothing);
+        }
+
+        /** Divisors are numbers told there, or tested in the very method. */
+        @Override
+        public Void visitBinary(BinaryTree tree, Void nothing) {
+            boolean divides = tree.getKind() == Tree.Kind.DIVIDE || tree.getKind() == Tree.Kind.REMAINDER;
+            boolean known = tree.getRightOperand() instanceof LiteralTree
+                || List.of("height step", "commonDivisor less", "inLowestTerms divisor").contains(method + " " + tree.getRightOperand());
+            rule(7, !divides || known, "a divisor that is not tested, line " + line(tree));
+            return super.visitBinary(tree, nothing);
+        }
+
+        @Override
+        public Void visitCompoundAssignment(CompoundAssignmentTree tree, Void nothing) {
+            boolean divides = tree.getKind() == Tree.Kind.DIVIDE_ASSIGNMENT || tree.getKind() == Tree.Kind.REMAINDER_ASSIGNMENT;
+            rule(7, !divides, "a divisor that is not tested, line " + line(tree));
+            return super.visitCompoundAssignment(tree, nothing);
+        }
+
+        /** A counter steps by one towards a bound. */
+        @Override
+        public Void visitForLoop(ForLoopTree tree, Void nothing) {
+            boolean steps = tree.getUpdate().size() == 1 && tree.getUpdate().get(0).toString().matches("\\w+(\\+\\+|--);");
+            boolean bound = tree.getCondition() != null && tree.getCondition().toString().matches(".*[<>].*");
+            rule(9, steps && bound, "a loop whose end is not seen, line " + line(tree));
+            return super.visitForLoop(tree, nothing);
+        }
+
+        @Override
+        public Void visitWhileLoop(WhileLoopTree tree, Void nothing) {
+            rule(9, tree.getCondition().toString().startsWith("(more < MOST_PEPPER && "), "a loop whose end is not seen, line " + line(tree));
+            return super.visitWhileLoop(tree, nothing);
+        }
+
+        @Override
+        public Void visitDoWhileLoop(DoWhileLoopTree tree, Void nothing) {
+            never(9, tree, "a loop whose end is not seen");
             return null;
         }
 
